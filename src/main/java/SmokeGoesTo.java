@@ -9,7 +9,7 @@ public final class SmokeGoesTo {
     public static final long NO = -4611686018427387904L;
 
     private static final int MISSING = -11, OUTSIDE = -12, UNLIKE = -13, NEGATIVE = -14;
-    private static final int NO_NIGHT = -100, NO_EDDIES = -100000, FAULTS = -100;
+    private static final int NO_ANSWER = -100, NO_EDDIES = -100000, FAULTS = -100;
 
     private static final int PLACES = 8, ALL_TENTS = 255, HUNDRED = 100;
     private static final int MOST_SITTERS = 5, MOST_NUMBER = 9, KINDS = 6;
@@ -155,7 +155,7 @@ public final class SmokeGoesTo {
     // ---- nights
 
     public int night(int sheet, int what) {
-        if (!isSheet(sheet) || !isNightWhat(what) || sheets[sheet].isMissing()) return NO_NIGHT;
+        if (!isSheet(sheet) || !isNightWhat(what) || sheets[sheet].isMissing()) return NO_ANSWER;
         thought.takeWinds(sheets[sheet]);
         thinkAsItIs();
         return what < 10 ? thought.ofAll(what) : thought.ofOne(what / 10, what % 10);
@@ -301,10 +301,10 @@ public final class SmokeGoesTo {
     // ---- red eyes
 
     public int eyes(int sheet, int n, int what) {
-        if (!isSheet(sheet) || n < 0 || n > EYES_MINUTES) return NO_NIGHT;
-        if (what < EYES_FIRST || what >= fire.size) return NO_NIGHT;
+        if (!isSheet(sheet) || n < 0 || n > EYES_MINUTES) return NO_ANSWER;
+        if (what < EYES_FIRST || what >= fire.size) return NO_ANSWER;
         Sheet red = sheets[sheet];
-        if (red.isMissing() || red.size != fire.size) return NO_NIGHT;
+        if (red.isMissing() || red.size != fire.size) return NO_ANSWER;
         if (what == EYES_WINDS) return rowsThatFit(red, n);
         if (what == EYES_FIRST) return firstThatFits(red, n);
         return kindsThatFit(red, n, what);

@@ -274,6 +274,10 @@ public final class SmokeGoesToPromises {
         faultAt("bears 1+\u00e9;", 8);
         faultAt("bears 1+heat;", 8);
         faultAt("bears 1+minutes;", 8);
+        faultAt("bears 1+bears;", 8);
+        faultAt("bears 1+moves;", 8);
+        faultAt("bears longz;", 6);
+        faultAt("bears along;", 6);
         faultAt("bears 1+minut;", 8);
         faultAt("bears 1orand 2;", 7);
         faultAt("bears 1 or;", 10);
