@@ -1154,6 +1154,16 @@ public final class SmokeGoesToBounds {
         k.set(5, 0, 2);
         due("thrice by NUMBER 2: COUNTER and BRAVE, too", k.eyes(0, 3, 0), ALL_KINDS - (1 << MOVER));
         due("KIND stays", k.told(0, 0), SITTER);
+        SmokeGoesTo edge = new SmokeGoesTo();
+        edge.sitter(SITTER, 0, 7);
+        lay(edge, 0, 1);
+        due("by the first row alone", edge.eyes(0, 1, 0), ALL_KINDS);
+        edge.set(6, 0, 1);
+        due("by the last row alone", edge.eyes(0, 1, 0), ALL_KINDS);
+        for (int p = 2; p <= 6; p++) {
+            edge.set(6, 0, p);
+            due("by no row of one, at " + p, edge.eyes(0, 1, 0), 0);
+        }
         says("it is missing; its size isn't how many SITTERS there are.");
         for (int size = 0; size <= 6; size++) {
             k.sheet(1, 0, size);
